@@ -827,7 +827,7 @@ public final class TwoThirdsOfAnEgg {
       place = 0;
       for (int i = 0; i < letters.size() && place < letters.size(); i++) {
         int start = place;
-        if (!statementRead() || !statementCame(draft, letter(start))) {
+        if (!statementRead() || !statementCame(draft, letters.at(start, 0))) {
           return WRONG_STATEMENT - start;
         }
         statements++;
@@ -836,13 +836,9 @@ public final class TwoThirdsOfAnEgg {
     }
 
     /** Behind the last letter there stands 0, which fits no form. */
-    private int letter(int at) {
-      return letters.at(at, 0);
-    }
-
     private boolean statementRead() {
       told.reset(0, 0);
-      String form = formOf(letter(place));
+      String form = formOf(letters.at(place, 0));
       for (int i = 0; i < form.length(); i++) {
         if (!signRead(form.charAt(i))) {
           return false;
@@ -872,7 +868,7 @@ public final class TwoThirdsOfAnEgg {
         case 'O': return shapeRead();
         default: break;
       }
-      if (letter(place) != sign) {
+      if (letters.at(place, 0) != sign) {
         return false;
       }
       place++;
@@ -882,20 +878,23 @@ public final class TwoThirdsOfAnEgg {
     private boolean numberRead(int fewest, int most) {
       int value = 0;
       int digits = 0;
-      while (digits < most && letter(place) >= '0' && letter(place) <= '9') {
-        value = 10 * value + letter(place) - '0';
-        place++;
+      int letter = letters.at(place, 0);
+      while (digits < most && letter >= '0' && letter <= '9') {
+        value = 10 * value + letter - '0';
         digits++;
+        place++;
+        letter = letters.at(place, 0);
       }
       told.add(value);
       return digits >= fewest;
     }
 
     private boolean shapeRead() {
-      if (letter(place) != 'o' && letter(place) != 'q') {
+      int letter = letters.at(place, 0);
+      if (letter != 'o' && letter != 'q') {
         return false;
       }
-      told.add(letter(place) == 'q' ? 1 : 0);
+      told.add(letter == 'q' ? 1 : 0);
       place++;
       return true;
     }
@@ -916,7 +915,7 @@ public final class TwoThirdsOfAnEgg {
     }
 
     private boolean within(int i, int least, int most) {
-      return number(i) >= least && number(i) <= most;
+      return told.at(i, 0) >= least && told.at(i, 0) <= most;
     }
 
     private boolean forCame(Kitchen draft) {

@@ -65,6 +65,8 @@ public final class CupsTest {
     pathDue("c000303;", 3, 101);
     pathDue("c050303;", 2, 100, 310);
     pathDue("c050300;", 6);
+    pathDue("c000012;", 12, 102);
+    pathDue("c070512;", 12, 102);
     pathDue("c050503;", 1, 102, 302, 102, 302);
   }
 

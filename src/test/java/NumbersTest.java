@@ -44,7 +44,10 @@ public final class NumbersTest {
     Check.due("LOOSE comes out but FOR that many", two.out(-1), 1);
     Check.due("just FOR that many", two.out(0), 6);
     Check.due("none", Check.told("f23;p4111;p1102;p1101;").out(0), 23);
-    Check.due("not one", Check.told("f24;p3213;").out(-1), 1);
+    Check.due("one packet comes out", Check.told("f24;p3213;").out(-1), 1);
+    TwoThirdsOfAnEgg none = Check.told("f24;p3911;");
+    Check.due("none comes out", none.out(-1), 0);
+    Check.due("the first of none", none.out(0), -9);
   }
 
   private static void scale() {
@@ -54,6 +57,8 @@ public final class NumbersTest {
       scaleDue(egg, 1, 7, 7, 3, 2);
       scaleDue(egg, 9, 240, 16, 0, 1);
       scaleDue(egg, 1, 1, 1, 21, 2);
+      scaleDue(egg, 16, 24, 16, 0, 1);
+      scaleDue(egg, 7, 9, 8, 0, 1);
       scaleDue(egg, 240, 240, 240, 0, 1);
       scaleDue(Check.told(number + "p1113;p1115;"), 1, 12, 9, 3, 2);
       scaleDue(Check.told(number + "p1113;p1135;"), 1, 12, 10, 3, 1);
@@ -76,6 +81,8 @@ public final class NumbersTest {
     Check.due("enough", egg.enough(), 5);
     egg.house(1, 5);
     Check.due("enough but for a packet", egg.enough(), 3);
+    egg.house(1, 2);
+    Check.due("enough for one", egg.enough(), 1);
     egg.house(0, 0);
     Check.due("enough of nothing", egg.enough(), 0);
     egg.house(0, 99);

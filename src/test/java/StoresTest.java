@@ -21,6 +21,9 @@ public final class StoresTest {
     Check.due("lacks for 5", egg.lacks(), 3);
     egg.house(2, 8);
     Check.due("lacks all", egg.lacks(), 7);
+    TwoThirdsOfAnEgg many = Check.told("f4;p11199;p11199;h0=99;h1=98;");
+    Check.due("one of 99 lacks", many.lacks(), 2);
+    Check.due("enough but for one of 99", many.enough(), 3);
     Check.due("lacks without PARTS", new TwoThirdsOfAnEgg().lacks(), 0);
   }
 
@@ -55,6 +58,10 @@ public final class StoresTest {
     Check.due("what is TAKEN of the other is rounded up", parts.stead(0), -9);
     parts.house(1, 3);
     Check.due("what lacks is rounded up", parts.stead(0), 2);
+    TwoThirdsOfAnEgg all = Check.told("f4;p1115;p11160;h0=4;h1=60;s01111;");
+    Check.due("all 60 of the other are TAKEN", all.stead(0), -9);
+    all.house(1, 61);
+    Check.due("one of 61 is not", all.stead(0), 1);
   }
 
   private static void steadOfMany() {
@@ -106,6 +113,7 @@ public final class StoresTest {
     Check.due("a whole packet", packets.cheapest(1, 24), 6);
     Check.due("two whole packets", packets.cheapest(7, 24), 12);
     Check.due("as near to them as can be", packets.cheapest(7, 11), 11);
+    Check.due("the last of two", packets.cheapest(11, 12), 12);
     Check.due("one alone", packets.cheapest(7, 7), 7);
     Check.due("cheapest without PARTS", new TwoThirdsOfAnEgg().cheapest(5, 24), 5);
   }
@@ -137,6 +145,11 @@ public final class StoresTest {
     Check.due("just what is LEFT", twice.usedUp(1), 1);
     twice.dish(0, 8, 0, 9, 99);
     Check.due("a twelfth too much", twice.usedUp(1), 1);
+    TwoThirdsOfAnEgg dear = Check.told("f6;p3311;p3211;");
+    dear.dish(0, 28, 1, 1, 99);
+    dear.dish(0, 1, 1, 16, 0);
+    Check.due("much WORTH, little taken", dear.usedUp(0), 99);
+    Check.due("no WORTH is not taken", dear.usedUp(1), 1);
     TwoThirdsOfAnEgg none = Check.told("f6;p1116;p3311;");
     none.dish(1, 5, 0, 1, 9);
     Check.due("of the other nothing is LEFT", none.usedUp(1), 0);
