@@ -558,7 +558,11 @@ public final class TwoThirdsOfAnEgg {
 
     /** The nearest whole number, of two the less. */
     static int nearest(int above, int below) {
-      return below < 1 ? 0 : (2 * above + below - 1) / (2 * below);
+      if (below < 1) {
+        return 0;
+      }
+      int whole = above / below;
+      return 2 * (above % below) > below ? whole + 1 : whole;
     }
 
     static int inLeastTerms(int above, int below, int line) {
@@ -605,14 +609,14 @@ public final class TwoThirdsOfAnEgg {
 
     /** Where there is no such place, 0. */
     int at(int line, int column) {
-      boolean told = line >= 0 && line < size && column >= 0 && column < width;
-      int place = told ? line * width + column : -1;
+      boolean there = line >= 0 && line < size && column >= 0 && column < width;
+      int place = there ? line * width + column : -1;
       return place >= 0 && place < cells.length ? cells[place] : 0;
     }
 
     void put(int line, int column, int v) {
-      boolean told = line >= 0 && line < size && column >= 0 && column < width;
-      int place = told ? line * width + column : -1;
+      boolean there = line >= 0 && line < size && column >= 0 && column < width;
+      int place = there ? line * width + column : -1;
       if (place >= 0 && place < cells.length) {
         cells[place] = v;
       }
@@ -1390,7 +1394,7 @@ public final class TwoThirdsOfAnEgg {
       came.reset(0, 0);
       ways.reset(STATES, NONE);
       comes(0, 0, 0);
-      for (int i = 0; i < came.size(); i++) {
+      for (int i = 0; i < STATES && i < came.size(); i++) {
         for (int cup = 0; cup < 3; cup++) {
           goOnFrom(came.at(i, 0), cup, cups);
         }

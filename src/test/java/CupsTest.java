@@ -27,6 +27,11 @@ public final class CupsTest {
     for (int n = 1; n <= 12; n++) {
       Check.due("pours(" + n + ") of 5 and 3", egg.pours(n), due[n - 1]);
     }
+    egg.cup(0, 7);
+    Check.due("pours(4) of 7 and 3", egg.pours(4), 2);
+    Check.due("pours(5) of 7 and 3", egg.pours(5), 8);
+    egg.cup(1, 0);
+    Check.due("pours(4) of 7", egg.pours(4), -9);
     TwoThirdsOfAnEgg even = Check.told("c080406;");
     Check.due("even ounces", even.pours(2), 2);
     Check.due("odd ounces", even.pours(3), -9);

@@ -154,6 +154,7 @@ public final class NumbersTest {
     Check.due("without PARTS, above", new TwoThirdsOfAnEgg().seeds(20, -5, 0), 0);
     Check.due("without PARTS, below", new TwoThirdsOfAnEgg().seeds(20, -5, 1), 1);
     Check.due("without PARTS, enough", new TwoThirdsOfAnEgg().seeds(20, -5, 2), 20);
+    Check.due("seven of 15, 23, 10, 20, 20, 12, 19, 4, 13, 7", Check.told("f1;p0111;h0=19;").seeds(10, 1, 2), 7);
     TwoThirdsOfAnEgg below = Check.told("f12;p4111;");
     // -1 becomes -1103502900 (sign off: 1043980748, over 65536: 15929, by 24: 17): 18 GUESTS of 12
     Check.due("a seed below nought", below.seeds(1, -1, 0), 6);

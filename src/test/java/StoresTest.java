@@ -100,6 +100,10 @@ public final class StoresTest {
     egg.price(3, 1);
     Check.due("buy(1) LOOSE", egg.buy(1), 7 + 9);
     Check.due("buy(24)", egg.buy(24), 260 + 16 * 7 + 11 * 99 + 9);
+    TwoThirdsOfAnEgg stored = Check.told("p0111;p0111;h0=99;");
+    stored.price(0, 9);
+    stored.price(1, 5);
+    Check.due("what is there brings no pence", stored.buy(6), 5);
     Check.due("buy without PARTS", new TwoThirdsOfAnEgg().buy(24), 0);
   }
 
