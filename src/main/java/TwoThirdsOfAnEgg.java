@@ -377,7 +377,7 @@ public final class TwoThirdsOfAnEgg {
   }
 
   public int needed(int part, int v, int other) {
-    int wrong = refused(noPartOf(part, other), outside(0, MOST_WHOLES, v));
+    int wrong = refused(notTwoParts(part, other), outside(0, MOST_WHOLES, v));
     if (wrong != 0) {
       return wrong;
     }
@@ -527,6 +527,11 @@ public final class TwoThirdsOfAnEgg {
 
   private int noPartOf(int part, int other) {
     return noPart(part) != 0 ? NOBODY : noPart(other);
+  }
+
+  /** One PART told twice is no two PARTS. */
+  private int notTwoParts(int part, int other) {
+    return part == other ? NOBODY : noPartOf(part, other);
   }
 
   private int rowNotForParts() {

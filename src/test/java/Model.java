@@ -992,7 +992,7 @@ final class Model {
   }
 
   int needed(int part, int v, int other) {
-    if (!isPart(part) || !isPart(other)) {
+    if (!isPart(part) || !isPart(other) || part == other) {
       return no(-1);
     }
     if (v < 0 || v > 99) {

@@ -137,6 +137,11 @@ public final class RefusalsTest {
       Check.due("more" + args, egg.more(row[0], row[1], row[2]), row[3]);
       Check.due("needed" + args, egg.needed(row[0], row[1], row[2]), row[3]);
     }
+    int[][] same = {{0, 0, 0}, {1, 99, 1}, {0, -1, 0}, {1, 100, 1}, {0, LEAST, 0}, {1, GREATEST, 1}};
+    for (int[] row : same) {
+      String args = "(" + row[0] + ", " + row[1] + ", " + row[2] + ")";
+      Check.due("needed" + args, egg.needed(row[0], row[1], row[2]), -1);
+    }
     Check.due("needed(0, 100, 1)", egg.needed(0, 100, 1), -6);
     Check.due("more(0, 100, 1)", egg.more(0, 100, 1), 66);
   }

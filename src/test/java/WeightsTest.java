@@ -92,7 +92,7 @@ public final class WeightsTest {
 
   private static void needed() {
     TwoThirdsOfAnEgg egg = Check.told("p0113;p4112;p01124;p0111;");
-    int[][] rows = {{0, 5, 1, 40}, {0, 1, 1, 8}, {2, 1, 3, 0}, {2, 3, 3, 1}, {2, 4, 3, 2}, {0, 0, 1, 0}, {0, 7, 0, 84},
+    int[][] rows = {{0, 5, 1, 40}, {0, 1, 1, 8}, {2, 1, 3, 0}, {2, 3, 3, 1}, {2, 4, 3, 2}, {0, 0, 1, 0}, {0, 7, 0, -1},
         {3, 99, 2, 28512}, {1, 1, 0, 18}, {2, 5, 3, 2}, {0, 1, 3, 4}};
     for (int[] row : rows) {
       String what = "needed(" + row[0] + ", " + row[1] + ", " + row[2] + ")";
