@@ -12,6 +12,9 @@ public final class TwoThirdsOfAnEgg {
   private static final int ROOM = -6;
   private static final int NONE = -9;
   private static final long LONG_REFUSALS = 4000000000000000000L;
+  /** Above all sums of which the least is sought. */
+  private static final int BEYOND_ALL = 1000000000;
+  private static final int ALL_BUT_THE_SIGN = 0x7fffffff;
 
   private static final int MOST_GUESTS = 24;
   private static final int MOST_WHOLES = 99;
@@ -1068,8 +1071,8 @@ public final class TwoThirdsOfAnEgg {
     /** As x's rise, the first found has the fewest of them. */
     static int lotsFor(int guests, int x, int y) {
       int best = NONE;
-      int leastAbove = Integer.MAX_VALUE;
-      int fewest = Integer.MAX_VALUE;
+      int leastAbove = BEYOND_ALL;
+      int fewest = BEYOND_ALL;
       for (int ofX = 0; ofX <= MOST_GUESTS; ofX++) {
         for (int ofY = 0; ofY <= MOST_GUESTS; ofY++) {
           int above = ofX * x + ofY * y - guests;
@@ -1111,7 +1114,7 @@ public final class TwoThirdsOfAnEgg {
     }
 
     private static int guestsBy(int z) {
-      return (z & Integer.MAX_VALUE) / 65536 % 24 + 1;
+      return (z & ALL_BUT_THE_SIGN) / 65536 % 24 + 1;
     }
 
     /** 100 times x, and y; as x's fall, the first found has the most of them. */
@@ -1192,7 +1195,7 @@ public final class TwoThirdsOfAnEgg {
 
     static int nearestPair(Kitchen kitchen) {
       int best = NONE;
-      int nearest = Integer.MAX_VALUE;
+      int nearest = BEYOND_ALL;
       for (int one = 0; one < kitchen.tins.size(); one++) {
         for (int other = one + 1; other < kitchen.tins.size(); other++) {
           int together = (area(kitchen, one) + area(kitchen, other)) * kitchen.forMany;

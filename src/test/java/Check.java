@@ -8,23 +8,25 @@ final class Check {
 
   private static int answers = 0;
   private static int wrong = 0;
+  private static String test = "";
 
   private Check() {
   }
 
+  /** What comes then is told under this name, if it is wrong. */
+  static void begin(String name) {
+    test = name + ": ";
+  }
+
   static void due(String what, long got, long want) {
-    answers++;
-    if (got != want) {
-      wrong++;
-      System.out.println(what + " answered " + got + ", due is " + want);
-    }
+    due(what, Long.toString(got), Long.toString(want));
   }
 
   static void due(String what, String got, String want) {
     answers++;
     if (!got.equals(want)) {
       wrong++;
-      System.out.println(what + " answered " + got + ", due is " + want);
+      System.out.println(test + what + " answered " + got + ", due is " + want);
     }
   }
 

@@ -5,6 +5,7 @@ public final class ImageTest {
 
   public static void main(String[] args) {
     imageOfAll();
+    anotherImage();
     whatItLeavesOut();
     linesComeAnew();
     counts();
@@ -35,6 +36,11 @@ public final class ImageTest {
     change(egg);
     Check.due("restore again", egg.restore(), 5);
     Check.due("all is as it was, again", Check.all(egg), before);
+  }
+
+  private static void anotherImage() {
+    TwoThirdsOfAnEgg egg = full();
+    egg.image();
     change(egg);
     String changed = Check.all(egg);
     Check.due("another image", egg.image(), 24);

@@ -6,6 +6,7 @@ import com.sun.source.tree.ImportTree;
 import com.sun.source.tree.LambdaExpressionTree;
 import com.sun.source.tree.LineMap;
 import com.sun.source.tree.MemberReferenceTree;
+import com.sun.source.tree.MemberSelectTree;
 import com.sun.source.tree.MethodInvocationTree;
 import com.sun.source.tree.MethodTree;
 import com.sun.source.tree.NewArrayTree;
@@ -214,6 +215,17 @@ public final class LanguageTest extends TreePathScanner<Void, Void> {
     if (method != null && !method.getName().contentEquals("<init>")) {
       wrong("something made by a call", tree);
     }
+  }
+
+  /** The library is its functions alone: of fields there is but the length of an array. */
+  @Override
+  public Void visitMemberSelect(MemberSelectTree tree, Void none) {
+    Element element = trees.getElement(getCurrentPath());
+    boolean field = element != null && element.getKind().isField() && !tree.getIdentifier().contentEquals("length");
+    if (field && !element.getEnclosingElement().toString().startsWith(OUTER)) {
+      wrong("a field of the library", tree);
+    }
+    return super.visitMemberSelect(tree, none);
   }
 
   private MethodTree methodAround() {
